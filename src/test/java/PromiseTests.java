@@ -492,6 +492,8 @@ public final class PromiseTests {
         due("the last", 2, b::longestFactor);
         due("of several the first one", 1, () -> Checks.with(2, "babab").longestFactor());
         due("of equal lengths the first one", 0, () -> Checks.with(3, "acab").longestFactor());
+        due("longer and longer ones", 2, () -> Checks.with(2, "babaab").longestFactor());
+        due("a long one in the middle", 1, () -> Checks.with(2, "baabaa").longestFactor());
     }
 
     private static void hypothetical() {
@@ -536,6 +538,10 @@ public final class PromiseTests {
         due("4 and 5 of eight", "0 -1", () -> rank(8, "aaab") + " " + rank(8, "aaaab"));
         due("3 and 4 of nine", "239 -1", () -> rank(9, "hii") + " " + rank(9, "aaab"));
         due("120 letters", -1, () -> rank(2, times(119, "a") + "b"));
+        due("far behind", "1 1 0", () -> {
+            LyndonBench b = Checks.with(2, times(20, "b") + "abbabaab");
+            return b.rankOf(19) + " " + b.rankOf(20) + " " + b.rankOf(22);
+        });
         due("of none", INDEX, () -> throwsAll(INDEX, () -> new LyndonBench().rankOf(3),
             () -> new LyndonBench().rankOf(-1), () -> Checks.with(2, "").rankOf(0)));
     }
@@ -585,6 +591,7 @@ public final class PromiseTests {
         due("a letter", "0 1 1 0 0 0", () -> shape(2, "b"));
         due("of several the smallest number", "1 2 2 2 3 0", () -> shape(2, "baba"));
         due("the last", "4 5 5 0 4 0", () -> shape(3, "ccbba"));
+        due("behind nearly the same", "6 12 12 0 6 11", () -> shape(3, "aabaabaaaaac"));
         promise = 43;
         due("three times", "0 2 2 4 4 1", () -> shape(2, "ababab"));
         due("a period that does not divide", "4 5 2 3 4 1", () -> shape(2, "ababa"));
@@ -725,6 +732,7 @@ public final class PromiseTests {
         due("one", "2 ab", () -> written(2, "ab"));
         due("powers", "12 b^2|ab^3|a^2", () -> written(2, "bbabababaa"));
         due("a power of 10", "4 a^10", () -> written(2, times(10, "a")));
+        due("a power of 100", "5 a^100", () -> written(2, times(100, "a")));
         due("a power of 120", "5 a^120", () -> written(2, times(120, "a")));
         due("no bar behind the last", "16 ac|ab|aabaccabab", () -> {
             LyndonBench b = new LyndonBench();

@@ -126,6 +126,7 @@ public final class ScriptTests {
         right("letters 2;text bab;keep;keep 0;keep 1;", "bab[bab b ab]");
         right("letters 2;text bab;keep;keep 0;keep 1;remove 0;remove 1;", "bab[b]");
         right("letters 2;text ab;keep;text b;keep;join;", "bab[ab b]");
+        right("letters 2;text " + times(50, "b") + "ab;keep 50;", times(50, "b") + "ab[ab]");
         right("letters 9;text head;", "head[]");
         wrongAt("letters 9;text #text;", 2);
         wrongAt("letters 2;#keeptext;", 1);
