@@ -1,5 +1,7 @@
 import static java.util.Collections.nCopies;
 
+import java.util.function.Consumer;
+
 /** Each promise of the document by its number: ordinary inputs, the edges it names, and wrong inputs. */
 public final class PromiseTests {
     private static final String ILLEGAL = "throws.IllegalArgumentException";
@@ -16,6 +18,7 @@ public final class PromiseTests {
         changesOfTheText();
         next();
         shelfChanges();
+        undoOfEach();
         undo();
         snapshot();
         text();
@@ -334,7 +337,37 @@ public final class PromiseTests {
         LyndonBench g = Checks.after("letters 2;text ab;keep;keep;keep;keep;keep;keep;keep;keep;text " + times(120, "b")
             + ";");
         due("eight", 16, g::joinKept);
+        due("one", 2, () -> Checks.after("letters 2;text ba;keep;text a;").joinKept());
         due("not behind the old text", times(8, "ab"), () -> Checks.text(g));
+    }
+
+    /** One call of a change on a new bench, the number of changes it counts as, and the state when it is undone. */
+    private static void undone(int number, Consumer<LyndonBench> change) {
+        promise = number;
+        LyndonBench b = new LyndonBench();
+        Checks.load(b, "letters 4;text bca;");
+        b.cutPart(4, 14);
+        String before = state(b);
+        change.accept(b);
+        due("counts as a change", 2, b::undoCount);
+        due("is undone", "1 " + before, () -> b.undo() + " " + state(b));
+    }
+
+    private static void undoOfEach() {
+        undone(4, b -> b.runScript());
+        undone(5, b -> b.setLetters(5));
+        undone(6, b -> b.readText());
+        undone(7, b -> b.appendLetter('c'));
+        undone(8, b -> b.dropLast(3));
+        undone(9, b -> b.cutPart(1, 5));
+        undone(10, b -> b.rotate(3));
+        undone(11, b -> b.reverse());
+        undone(12, b -> b.rotateToLeast());
+        undone(13, b -> b.nextLyndon(20));
+        undone(14, b -> b.keepFactor(0));
+        undone(15, b -> b.keepText());
+        undone(16, b -> b.removeKept(0));
+        undone(17, b -> b.joinKept());
     }
 
     private static void undo() {
@@ -489,6 +522,7 @@ public final class PromiseTests {
         due("the first and the last", "0 2", () -> b.factorOf(0) + " " + b.factorOf(13));
         promise = 33;
         due("none", -1, () -> Checks.with(2, "").longestFactor());
+        due("single letters", 0, () -> Checks.with(2, "ba").longestFactor());
         due("the last", 2, b::longestFactor);
         due("of several the first one", 1, () -> Checks.with(2, "babab").longestFactor());
         due("of equal lengths the first one", 0, () -> Checks.with(3, "acab").longestFactor());
@@ -591,6 +625,7 @@ public final class PromiseTests {
         due("a letter", "0 1 1 0 0 0", () -> shape(2, "b"));
         due("of several the smallest number", "1 2 2 2 3 0", () -> shape(2, "baba"));
         due("the last", "4 5 5 0 4 0", () -> shape(3, "ccbba"));
+        due("smaller and smaller", "3 4 4 0 3 0", () -> shape(4, "dcba"));
         due("behind nearly the same", "6 12 12 0 6 11", () -> shape(3, "aabaabaaaaac"));
         promise = 43;
         due("three times", "0 2 2 4 4 1", () -> shape(2, "ababab"));
@@ -621,7 +656,12 @@ public final class PromiseTests {
             promise = 49;
             due("two letters, " + i, necklacesOfTwo[i - 1], () -> two.necklaces(length));
         }
-        promise = 48;
+        for (int i = 1; i <= 18; i++) {
+            int length = i;
+            long words = Model.primitiveWords(9, length) / length;
+            promise = 48;
+            due("nine letters, " + i, words, () -> nine.lyndonWords(length));
+        }
         due("nine letters", "9 36 240 1620", () -> nine.lyndonWords(1) + " " + nine.lyndonWords(2) + " "
             + nine.lyndonWords(3) + " " + nine.lyndonWords(4));
         due("nine letters, 18", 8338590828280440L, () -> nine.lyndonWords(18));
@@ -731,6 +771,9 @@ public final class PromiseTests {
         due("none", "0 ", () -> written(2, ""));
         due("one", "2 ab", () -> written(2, "ab"));
         due("powers", "12 b^2|ab^3|a^2", () -> written(2, "bbabababaa"));
+        due("single letters", "3 b|a", () -> written(2, "ba"));
+        due("a power of 9", "3 a^9", () -> written(2, times(9, "a")));
+        due("a power of 99", "4 a^99", () -> written(2, times(99, "a")));
         due("a power of 10", "4 a^10", () -> written(2, times(10, "a")));
         due("a power of 100", "5 a^100", () -> written(2, times(100, "a")));
         due("a power of 120", "5 a^120", () -> written(2, times(120, "a")));

@@ -12,6 +12,7 @@ public final class ScriptTests {
         repeats();
         limits();
         firstErrors();
+        oneAfterTheOther();
         Checks.end();
     }
 
@@ -106,6 +107,7 @@ public final class ScriptTests {
         wrongAt("letters 2;#7;", 1);
         wrongAt("letters 2;#{", 1);
         wrongAt("letters 2;text a#`;", 1);
+        wrongAt("letters 2;text a#{;", 1);
     }
 
     private static void commands() {
@@ -121,6 +123,8 @@ public final class ScriptTests {
         right("letters 3;rotate 0;drop 0;part 0 0;reverse;", "[]");
         right("letters 3;text abcac;reverse;", "cacba[]");
         right("letters 3;text bcabca;least;", "abcabc[]");
+        right("letters 3;text b;least;", "b[]");
+        right("letters 2;text a;next 1;", "b[]");
         right("letters 2;text ab;next 4;", "abb[]");
         right("letters 2;text a;next 120;", times(119, "a") + "b[]");
         right("letters 2;text bab;keep;keep 0;keep 1;", "bab[bab b ab]");
@@ -279,5 +283,23 @@ public final class ScriptTests {
         wrongAt("letters 2;drop #9;least;", 2);
         wrongAt("letters 2;drop #9 9;", 2);
         wrongAt("letters 2;text ab;repeat 20(append abaaaa#;);", 3);
+    }
+
+    /** Nothing of a script that was run, to its end or not, may reach into the next one. */
+    private static void oneAfterTheOther() {
+        LyndonBench b = new LyndonBench();
+        String[] scripts = {"letters 2;repeat 20(repeat 10(reverse;););", "letters 2;repeat 20(repeat 10(reverse;););",
+            "letters 2;repeat 2(repeat 2(text ab;keep;", "letters 2;repeat 2(repeat 2(append a;););",
+            "letters 2;repeat 2(append b;", "letters 2;text b;", "letters 2;);", "letters 2;join;"};
+        String[] want = {"0 0 -1", "0 0 -1", "-1 1 41", "4 0 -1", "-1 1 28", "1 0 -1", "-1 1 10", "-1 3 14"};
+        for (int i = 0; i < scripts.length; i++) {
+            String script = scripts[i];
+            Checks.due("\"" + script + "\" behind others", want[i], () -> {
+                Checks.load(b, script);
+                return b.runScript() + " " + b.scriptErrorKind() + " " + b.scriptErrorOffset();
+            });
+        }
+        Checks.due("the state behind them", "b[] 4",
+            () -> Checks.text(b) + "[" + Checks.shelf(b) + "] " + b.undoCount());
     }
 }
