@@ -1,10 +1,21 @@
 import java.nio.charset.StandardCharsets;
+import java.util.Collections;
+import java.util.function.Function;
+import java.util.function.Supplier;
 
 /** What the tests share: counted checks, the name of what a call throws, and a way to fill the input buffer. */
 final class Checks {
     interface Call {
         Object answer();
     }
+
+    static final String ILLEGAL = "throws.IllegalArgumentException";
+    static final String STATE = "throws.IllegalStateException";
+    static final String INDEX = "throws.IndexOutOfBoundsException";
+    static final String NO_ELEMENT = "throws.NoSuchElementException";
+
+    /** The name of the test that is running, if it has one. */
+    static String test = "";
 
     private static int wrong = 0;
     private static int made = 0;
@@ -18,8 +29,24 @@ final class Checks {
         Object got = answerOf(call);
         if (!String.valueOf(want).equals(String.valueOf(got))) {
             wrong++;
-            System.out.println(what + " answered " + got + ", due is " + want);
+            System.out.println(test + (test.isEmpty() ? "" : ": ") + what + " answered " + got + ", due is " + want);
         }
+    }
+
+    /** Checks one answer of the test that is running. */
+    static void due(Object want, Call call) {
+        due("check " + (made + 1), want, call);
+    }
+
+    /** Checks that each of several calls throws this. */
+    static void all(String name, Call... calls) {
+        for (int i = 0; i < calls.length; i++) {
+            due("call " + (i + 1) + " of " + calls.length, name, calls[i]);
+        }
+    }
+
+    static int made() {
+        return made;
     }
 
     static Object answerOf(Call call) {
@@ -33,7 +60,7 @@ final class Checks {
     static void wrong(String what) {
         made++;
         wrong++;
-        System.out.println(what);
+        System.out.println(test + (test.isEmpty() ? "" : ": ") + what);
     }
 
     static void end() {
@@ -79,7 +106,8 @@ final class Checks {
 
     static String text(LyndonBench bench) {
         StringBuilder letters = new StringBuilder();
-        for (int i = 0; i < bench.length(); i++) {
+        int length = bench.length();
+        for (int i = 0; i < length; i++) {
             letters.append((char) bench.letterAt(i));
         }
         return letters.toString();
@@ -88,19 +116,71 @@ final class Checks {
     /** The kept words, separated by blanks. */
     static String shelf(LyndonBench bench) {
         StringBuilder words = new StringBuilder();
-        for (int i = 0; i < bench.keptCount(); i++) {
+        int count = bench.keptCount();
+        for (int i = 0; i < count; i++) {
+            int length = bench.keptLength(i);
             words.append(i == 0 ? "" : " ");
-            for (int j = 0; j < bench.keptLength(i); j++) {
+            for (int j = 0; j < length; j++) {
                 words.append((char) bench.keptLetter(i, j));
             }
         }
         return words.toString();
     }
 
+    /** Letters, text, shelf and the number of changes that can be undone. */
+    static String state(LyndonBench b) {
+        return b.letters() + " " + text(b) + " [" + shelf(b) + "] " + b.undoCount();
+    }
+
+    /** The length of the input buffer; near its end by the lengths to which it can't be shortened. */
+    static int inputLength(LyndonBench bench) {
+        int longer = bench.append(0, 0, 0, 0, 0);
+        if (longer != LyndonBench.NONE) {
+            return bench.truncateInput(longer - 20);
+        }
+        int length = 600;
+        while (answerOf(lengthOf(bench, length)) instanceof String) {
+            length--;
+        }
+        return length;
+    }
+
+    private static Call lengthOf(LyndonBench bench, int length) {
+        return () -> bench.truncateInput(length);
+    }
+
+    /** All that can be learnt of a bench by calls; it is used up by them. */
+    static String everything(LyndonBench bench) {
+        StringBuilder all = new StringBuilder(state(bench));
+        all.append(" report ").append(report(bench));
+        all.append(" error ").append(bench.scriptErrorKind()).append(" at ").append(bench.scriptErrorOffset());
+        all.append(" input ").append(inputLength(bench));
+        while (bench.undoCount() > 0) {
+            all.append(" undone ").append(bench.undo()).append(' ').append(state(bench));
+        }
+        all.append(" snapshot ").append(answerOf(bench::restoreSnapshot)).append(' ').append(state(bench));
+        bench.setLetters(9);
+        all.append(" read ").append(answerOf(bench::readText)).append(' ').append(text(bench));
+        return all.toString();
+    }
+
+    /** Checks that a call throws this, and that everything is afterwards as on a bench without the call. */
+    static void refused(String name, Supplier<LyndonBench> maker, Function<LyndonBench, Object> call) {
+        LyndonBench bench = maker.get();
+        due("the refused call", name, () -> call.apply(bench));
+        due("after the refused call everything", everything(maker.get()), () -> everything(bench));
+    }
+
+    static String times(int count, String part) {
+        return String.join("", Collections.nCopies(count, part));
+    }
+
     static String report(LyndonBench bench) {
         StringBuilder bytes = new StringBuilder();
-        for (int i = 0; bench.reportByte(i) != LyndonBench.NONE; i++) {
-            bytes.append((char) bench.reportByte(i));
+        int value = bench.reportByte(0);
+        for (int i = 1; value != LyndonBench.NONE; i++) {
+            bytes.append((char) value);
+            value = bench.reportByte(i);
         }
         return bytes.toString();
     }

@@ -1,13 +1,11 @@
-import static java.util.Collections.nCopies;
-
 import java.util.function.Consumer;
 
 /** Each promise of the document by its number: ordinary inputs, the edges it names, and wrong inputs. */
 public final class PromiseTests {
-    private static final String ILLEGAL = "throws.IllegalArgumentException";
-    private static final String STATE = "throws.IllegalStateException";
-    private static final String INDEX = "throws.IndexOutOfBoundsException";
-    private static final String NO_ELEMENT = "throws.NoSuchElementException";
+    private static final String ILLEGAL = Checks.ILLEGAL;
+    private static final String STATE = Checks.STATE;
+    private static final String INDEX = Checks.INDEX;
+    private static final String NO_ELEMENT = Checks.NO_ELEMENT;
 
     private static int promise = 0;
 
@@ -41,7 +39,7 @@ public final class PromiseTests {
     }
 
     private static String times(int count, String part) {
-        return String.join("", nCopies(count, part));
+        return Checks.times(count, part);
     }
 
     private static String throwsAll(String name, Checks.Call... calls) {
@@ -54,21 +52,16 @@ public final class PromiseTests {
         return name;
     }
 
-    /** Letters, text, shelf and the number of changes that can be undone. */
-    private static String state(LyndonBench b) {
-        return b.letters() + " " + Checks.text(b) + " [" + Checks.shelf(b) + "] " + b.undoCount();
-    }
-
     private static void input() {
         promise = 1;
         LyndonBench b = new LyndonBench();
-        due("the state", "3 acabaabaccabab [abac ab] 0", () -> state(b));
+        due("the state", "3 acabaabaccabab [abac ab] 0", () -> Checks.state(b));
         due("the report is empty", -1, () -> b.reportByte(0));
         due("no script error", "0 -1", () -> b.scriptErrorKind() + " " + b.scriptErrorOffset());
         due("nothing to undo", -1, b::undo);
         due("no snapshot", NO_ELEMENT, b::restoreSnapshot);
         due("as by its script", "3 acabaabaccabab [abac ab] 1", () ->
-            state(Checks.after("letters 3; text abacabaabacc; keep 0; keep 1; append ab; rotate 2;")));
+            Checks.state(Checks.after("letters 3; text abacabaabacc; keep 0; keep 1; append ab; rotate 2;")));
         due("the input is empty", ILLEGAL, () -> b.truncateInput(1));
 
         promise = 2;
@@ -111,13 +104,13 @@ public final class PromiseTests {
         LyndonBench b = new LyndonBench();
         Checks.load(b, "letters 4;text abdc;keep;append d;");
         due("the length", 5, b::runScript);
-        due("everything is replaced", "4 abdcd [abdc] 1", () -> state(b));
+        due("everything is replaced", "4 abdcd [abdc] 1", () -> Checks.state(b));
         due("the input is empty", 20, () -> b.append(0, 0, 0, 0, 0));
         due("bytes 0 are an error", "-1 1 0", () -> b.runScript() + " " + b.scriptErrorKind() + " "
             + b.scriptErrorOffset());
-        due("which changes nothing", "4 abdcd [abdc] 1", () -> state(b));
+        due("which changes nothing", "4 abdcd [abdc] 1", () -> Checks.state(b));
         due("the input is empty then", 20, () -> b.append(0, 0, 0, 0, 0));
-        due("undone", "0 3 acabaabaccabab [abac ab] 0", () -> b.undo() + " " + state(b));
+        due("undone", "0 3 acabaabaccabab [abac ab] 0", () -> b.undo() + " " + Checks.state(b));
         due("the error stays", "1 0", () -> b.scriptErrorKind() + " " + b.scriptErrorOffset());
         Checks.load(b, "letters 2;");
         due("an empty text", 0, b::runScript);
@@ -125,14 +118,14 @@ public final class PromiseTests {
         due("no error any more", 0, b::scriptErrorKind);
         promise = 23;
         due("no offset any more", -1, b::scriptErrorOffset);
-        due("the state", "2  [] 1", () -> state(b));
+        due("the state", "2  [] 1", () -> Checks.state(b));
         Checks.load(b, "letters 2;text ab;text ac;");
         b.runScript();
         promise = 22;
         due("kind", 2, b::scriptErrorKind);
         promise = 23;
         due("offset", 23, b::scriptErrorOffset);
-        due("the failed one is not remembered", "2  [] 1", () -> state(b));
+        due("the failed one is not remembered", "2  [] 1", () -> Checks.state(b));
     }
 
     private static void changesOfLetters() {
@@ -150,7 +143,7 @@ public final class PromiseTests {
         due("c is still kept", STATE, () -> b.setLetters(2));
         b.removeKept(0);
         due("c is not used", 3, () -> b.setLetters(2));
-        due("the state", "2 abaa [ab] 6", () -> state(b));
+        due("the state", "2 abaa [ab] 6", () -> Checks.state(b));
         LyndonBench c = Checks.with(9, "i");
         due("i is used", STATE, () -> c.setLetters(8));
         LyndonBench d = Checks.with(9, "h");
@@ -159,7 +152,7 @@ public final class PromiseTests {
         promise = 6;
         LyndonBench r = new LyndonBench();
         due("no input", 0, r::readText);
-        due("an empty text", "3  [abac ab] 1", () -> state(r));
+        due("an empty text", "3  [abac ab] 1", () -> Checks.state(r));
         Checks.load(r, "abcdabc");
         due("up to d", 3, r::readText);
         due("the input is empty", ILLEGAL, () -> r.truncateInput(1));
@@ -347,10 +340,10 @@ public final class PromiseTests {
         LyndonBench b = new LyndonBench();
         Checks.load(b, "letters 4;text bca;");
         b.cutPart(4, 14);
-        String before = state(b);
+        String before = Checks.state(b);
         change.accept(b);
         due("counts as a change", 2, b::undoCount);
-        due("is undone", "1 " + before, () -> b.undo() + " " + state(b));
+        due("is undone", "1 " + before, () -> b.undo() + " " + Checks.state(b));
     }
 
     private static void undoOfEach() {
@@ -378,11 +371,11 @@ public final class PromiseTests {
         b.setLetters(5);
         b.removeKept(0);
         b.keepText();
-        due("the state", "5 acabaabaccababa [ab acabaabaccababa] 4", () -> state(b));
-        due("keepText", "3 5 acabaabaccababa [ab] 3", () -> b.undo() + " " + state(b));
-        due("removeKept", "2 5 acabaabaccababa [abac ab] 2", () -> b.undo() + " " + state(b));
-        due("setLetters", "1 3 acabaabaccababa [abac ab] 1", () -> b.undo() + " " + state(b));
-        due("appendLetter", "0 3 acabaabaccabab [abac ab] 0", () -> b.undo() + " " + state(b));
+        due("the state", "5 acabaabaccababa [ab acabaabaccababa] 4", () -> Checks.state(b));
+        due("keepText", "3 5 acabaabaccababa [ab] 3", () -> b.undo() + " " + Checks.state(b));
+        due("removeKept", "2 5 acabaabaccababa [abac ab] 2", () -> b.undo() + " " + Checks.state(b));
+        due("setLetters", "1 3 acabaabaccababa [abac ab] 1", () -> b.undo() + " " + Checks.state(b));
+        due("appendLetter", "0 3 acabaabaccabab [abac ab] 0", () -> b.undo() + " " + Checks.state(b));
         due("no more", -1, b::undo);
 
         promise = 19;
@@ -439,16 +432,16 @@ public final class PromiseTests {
         b.appendLetter('d');
         promise = 21;
         due("its length", 4, b::restoreSnapshot);
-        due("the state", "3 acab [abac ab] 0", () -> state(b));
+        due("the state", "3 acab [abac ab] 0", () -> Checks.state(b));
         due("nothing can be undone", -1, b::undo);
         b.keepText();
         due("again", 4, b::restoreSnapshot);
-        due("it stays as it was", "3 acab [abac ab] 0", () -> state(b));
+        due("it stays as it was", "3 acab [abac ab] 0", () -> Checks.state(b));
         promise = 20;
         b.dropLast(4);
         due("in place of the earlier one", 0, b::saveSnapshot);
         b.appendLetter('a');
-        due("restored", "0 3  [abac ab] 0", () -> b.restoreSnapshot() + " " + state(b));
+        due("restored", "0 3  [abac ab] 0", () -> b.restoreSnapshot() + " " + Checks.state(b));
     }
 
     private static void text() {

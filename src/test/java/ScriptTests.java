@@ -1,5 +1,3 @@
-import static java.util.Collections.nCopies;
-
 /** Promises 4, 22 and 23: what scripts do, the order in which errors are found, and where each kind is reported. */
 public final class ScriptTests {
     public static void main(String[] args) {
@@ -17,11 +15,11 @@ public final class ScriptTests {
     }
 
     private static String times(int count, String part) {
-        return String.join("", nCopies(count, part));
+        return Checks.times(count, part);
     }
 
     /** A script without an error, and the text and shelf behind it. */
-    private static void right(String script, String want) {
+    static void right(String script, String want) {
         Checks.due("\"" + script + "\"", want, () -> {
             LyndonBench b = new LyndonBench();
             Checks.load(b, script);
@@ -35,7 +33,7 @@ public final class ScriptTests {
     }
 
     /** A script with an error at an offset; it must change nothing else. */
-    private static void wrong(String script, int kind, int offset) {
+    static void wrong(String script, int kind, int offset) {
         Checks.due("\"" + script + "\"", kind + " at " + offset, () -> {
             LyndonBench b = new LyndonBench();
             b.appendLetter('b');
@@ -49,7 +47,7 @@ public final class ScriptTests {
     }
 
     /** An error at the first place of a mark, which is taken out. */
-    private static void wrongAt(String marked, int kind) {
+    static void wrongAt(String marked, int kind) {
         int offset = marked.indexOf('#');
         wrong(marked.substring(0, offset) + marked.substring(offset + 1), kind, offset);
     }
