@@ -1,7 +1,10 @@
+import java.io.IOException;
 import java.lang.reflect.Constructor;
 import java.lang.reflect.Field;
 import java.lang.reflect.Method;
 import java.lang.reflect.Modifier;
+import java.nio.file.Files;
+import java.nio.file.Path;
 import java.util.Arrays;
 import java.util.Set;
 import java.util.TreeSet;
@@ -25,7 +28,9 @@ public final class FaceTests {
         "int violations()", "int writeFactors()", "int reportByte(int)",
     };
 
-    public static void main(String[] args) {
+    private static final Path DOCUMENT = Path.of("../shared/DOC.md");
+
+    public static void main(String[] args) throws IOException {
         Set<String> visible = new TreeSet<>();
         Set<String> publicNames = new TreeSet<>();
         for (Method method : LyndonBench.class.getDeclaredMethods()) {
@@ -45,7 +50,37 @@ public final class FaceTests {
         Checks.due("the constructor is public", true, () -> Modifier.isPublic(constructors[0].getModifiers()));
         Checks.due("the class is public and final", true, () -> Modifier.isPublic(LyndonBench.class.getModifiers())
             && Modifier.isFinal(LyndonBench.class.getModifiers()));
+        if (Files.exists(DOCUMENT)) {
+            checkDocument(Files.readString(DOCUMENT));
+        }
         Checks.end();
+    }
+
+    /** The document's face has these methods, each with the exceptions that it names, in its order. */
+    private static void checkDocument(String document) {
+        Set<String> want = new TreeSet<>();
+        int begin = document.indexOf("public final class LyndonBench {");
+        for (String line : document.substring(begin, document.indexOf("\n}", begin)).split("\n")) {
+            if (line.matches(" +public \\w+ \\w+\\(.*;")) {
+                want.add(line.trim().replaceAll("\\bint \\w+([,)])", "int$1").replace(";", ""));
+            }
+        }
+        Set<String> got = new TreeSet<>();
+        for (Method method : LyndonBench.class.getDeclaredMethods()) {
+            if (Modifier.isPublic(method.getModifiers())) {
+                got.add("public " + signature(method).replace(",", ", ") + exceptions(method));
+            }
+        }
+        Checks.due("the number of methods in the document", METHODS.length, want::size);
+        Checks.due("the methods and their exceptions", want, () -> got);
+    }
+
+    private static String exceptions(Method method) {
+        StringBuilder names = new StringBuilder();
+        for (Class<?> type : method.getExceptionTypes()) {
+            names.append(names.length() == 0 ? " throws " : ", ").append(type.getSimpleName());
+        }
+        return names.toString();
     }
 
     private static String signature(Method method) {
